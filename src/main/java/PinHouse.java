@@ -862,15 +862,16 @@ public final class PinHouse {
         private final int[] keysIn = new int[ROOMS];
         private final int[] queue = new int[STATES];
         private final boolean[] seen = new boolean[STATES];
-        private int queued;
+        private int carried, queued;
 
         private void work(House house) {
+            carried = house.keysAt(CARRIED);
             for (int door = 0; door < house.doorCount; door++) openers[door] = house.keysOpening(door);
             for (int room = 0; room < ROOMS; room++) keysIn[room] = house.keysAt(room);
         }
 
-        private int keysAfter(House house, int visited) {
-            int keys = house.keysAt(CARRIED);
+        private int keysAfter(int visited) {
+            int keys = carried;
             for (int room = 0; room < ROOMS; room++) {
                 if ((visited >> room & 1) != 0) keys |= keysIn[room];
             }
@@ -886,7 +887,7 @@ public final class PinHouse {
         }
 
         private int roomsBeyond(House house, int visited) {
-            int keys = keysAfter(house, visited);
+            int keys = keysAfter(visited);
             int found = 0;
             for (int door = 0; door < house.doorCount; door++) {
                 int sides = 1 << house.doors[door].one | 1 << house.doors[door].other;
@@ -914,7 +915,7 @@ public final class PinHouse {
 
         private void enqueueBeyond(House house, int state) {
             int visited = state >> ROOM_BITS;
-            int keys = keysAfter(house, visited);
+            int keys = keysAfter(visited);
             for (int door = 0; door < house.doorCount; door++) {
                 int room = house.doors[door].beyond(state & ROOM_MASK);
                 if (room != NONE && (openers[door] & keys) != 0) enqueue(visited | 1 << room, room);

@@ -14,6 +14,7 @@ public final class PlanTest {
         brassThatIsMissing();
         allOrders();
         settingsCountWhenCarried();
+        questionsStandAlone();
         CHECKS.finish();
     }
 
@@ -197,6 +198,31 @@ public final class PlanTest {
         for (int place = 0; place < 6; place++) CHECKS.due("place " + place, x.planOrder(place), place);
         CHECKS.due("planOrder(6)", x.planOrder(6), -2);
         CHECKS.due("carried out", x.carryPlan(), 1000 - 6 * 44);
+    }
+
+    /** An answer must not stand on what another question found before. */
+    private static void questionsStandAlone() {
+        PinHouse x = withDoors(4 + 8 + 8 + 1, 0, 1111, 1111);
+        x.plan(1, 0, 0);
+        x.plan(0, 9, 9);
+        x.plan(2, 0, 0);
+        CHECKS.due("mustBeLast at first", x.mustBeLast(), 1);
+        x.dropPlan();
+        x.plan(2, 9999, 9999);
+        x.plan(1, 9999, 9999);
+        CHECKS.due("brassForPlan then", x.brassForPlan(), 63);
+        x.dropPlan();
+        x.plan(0, 1, 1);
+        CHECKS.due("planOrder then", x.planOrder(0), 0);
+        CHECKS.due("brassForPlan of less", x.brassForPlan(), 0);
+        CHECKS.due("mustBeLast of less", x.mustBeLast(), 0);
+        x.dropPlan();
+        CHECKS.due("brassForPlan of nothing", x.brassForPlan(), 0);
+        CHECKS.due("planOrders of nothing", x.planOrders(), 1);
+        x.plan(2, 9999, 9999);
+        CHECKS.due("mustBeLast", x.mustBeLast(), -6);
+        CHECKS.due("planOrders", x.planOrders(), 0);
+        CHECKS.due("carryPlan", x.carryPlan(), -5);
     }
 
     private static void settingsCountWhenCarried() {

@@ -13,6 +13,7 @@ public final class SettingUpTest {
         cuts();
         cutErrors();
         meltedTogether();
+        lossIsRoundedUp();
         CHECKS.finish();
     }
 
@@ -186,6 +187,19 @@ public final class SettingUpTest {
         CHECKS.due("a gram is lost", x.cut(0, 0, 0), -5);
         CHECKS.due("changes", x.count(12), 2);
         CHECKS.due("never cut anew", x.ofDoor(0, 5), 0);
+    }
+
+    private static void lossIsRoundedUp() {
+        // 7 grams by 43 percent: 3.01; by 42: 2.94; by 50: 3.5; 20 grams by 50 percent: 10.
+        int[][] due = {{3, 43, 4}, {3, 42, 3}, {3, 50, 4}, {9070, 50, 10}, {9070, 49, 10}, {9070, 46, 10}, {9070, 45, 9}};
+        for (int[] one : due) {
+            PinHouse x = new PinHouse();
+            x.brass(100);
+            x.set(PinHouse.LOSS, one[1]);
+            x.door(0, 1, one[0], one[0]);
+            x.cut(0, 0, 0);
+            CHECKS.due("lost of row " + one[0] + " by " + one[1] + " percent", x.count(8), one[2]);
+        }
     }
 
     private static void meltedTogether() {

@@ -75,6 +75,17 @@ public final class TextTest {
         CHECKS.due("no change", x.count(12), 0);
         Checks.write(x, "b5");
         CHECKS.due("what was wiped does not come back", x.fault(), -6);
+        x.wipe();
+        String whole = "c1=1234/5678;k1234;tA;g1;b12";
+        for (int length = 0; length < whole.length(); length++) {
+            Checks.write(x, whole);
+            x.wipe();
+            Checks.write(x, whole.substring(0, length));
+            PinHouse y = new PinHouse();
+            Checks.write(y, whole.substring(0, length));
+            CHECKS.due("fault after what was wiped, " + length, x.fault(), y.fault());
+            x.wipe();
+        }
     }
 
     private static void fault(String text, int want) {
@@ -116,6 +127,11 @@ public final class TextTest {
         fault("tA;".repeat(26), 78);
         fault("tA;".repeat(25) + "b123;", 80);
         fault("tA;".repeat(25) + "k123", 79);
+        fault("tA;".repeat(26) + "c1", 80);
+        fault("tA;".repeat(24) + "c1=12345", 79);
+        fault("tA;".repeat(24) + "c1=1234/", 80);
+        fault("tA;".repeat(24) + "b1;c1=12", 80);
+        fault("b10;" + "tA;".repeat(24) + "c1=1", 80);
         fault("tA;".repeat(25) + "k1234", -6);
         fault("tA;".repeat(25) + "k123x", 79);
     }

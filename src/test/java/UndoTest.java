@@ -12,6 +12,7 @@ public final class UndoTest {
         restore();
         restoreErrors();
         twoSlots();
+        otherThingsInBetween();
         CHECKS.finish();
     }
 
@@ -178,6 +179,47 @@ public final class UndoTest {
         x.save(1);
         CHECKS.due("nothing saved in 0", x.restore(0), -5);
         CHECKS.due("saved in 1", x.restore(1), 1);
+    }
+
+    /** What is made in the place of something undone has nothing of it, and the saved state nothing of that. */
+    private static void otherThingsInBetween() {
+        PinHouse x = new PinHouse();
+        x.brass(300);
+        x.door(0, 1, 1111, 2222);
+        x.cut(0, 1112, 2223);
+        x.key(1111, 4);
+        x.plan(0, 3334, 3333);
+        long saved = Checks.sumOf(x);
+        x.save(0);
+        for (int times = 0; times < 4; times++) x.undo();
+        CHECKS.due("no door", x.count(2), 0);
+        x.door(2, 3, 4444, 5555);
+        CHECKS.due("never cut anew", x.ofDoor(0, 5), 0);
+        x.door(5, 6, 0, 0);
+        x.key(2222, 7);
+        x.plan(1, 7777, 8888);
+        long then = Checks.sumOf(x);
+        x.restore(0);
+        int[] door = {0, 1, 1112, 2223, 13, 1, 0, 0};
+        for (int what = 0; what < 8; what++) CHECKS.due("ofDoor(0, " + what + ")", x.ofDoor(0, what), door[what]);
+        CHECKS.due("cuts of the key", x.ofKey(0, 0), 1111);
+        CHECKS.due("place of the key", x.ofKey(0, 2), 4);
+        CHECKS.due("all numbers", Checks.sumOf(x), saved);
+        x.carryPlan();
+        CHECKS.due("the first row that was planned", x.ofDoor(0, 2), 3334);
+        CHECKS.due("the second row that was planned", x.ofDoor(0, 3), 3333);
+        x.undo();
+        x.undo();
+        CHECKS.due("all numbers then", Checks.sumOf(x), then);
+        x.dropPlan();
+        x.plan(0, 1, 1);
+        x.plan(1, 2, 2);
+        x.undo();
+        x.undo();
+        x.undo();
+        CHECKS.due("the plan then", x.ofDoor(1, 7), 0);
+        CHECKS.due("carried out", x.carryPlan(), 300 - 24 - 4 + 8 + 3 - 36);
+        CHECKS.due("the row that was planned then", x.ofDoor(1, 2), 7777);
     }
 
     private static void twoSlots() {

@@ -12,6 +12,8 @@ public final class WalkerTest {
         doorsTo();
         detourForAKey();
         doorsThereAndBack();
+        doorsFarAway();
+        manyWays();
         CHECKS.finish();
     }
 
@@ -177,6 +179,38 @@ public final class WalkerTest {
         CHECKS.due("from room 1", x.doorsTo(3), 1);
         x.putDown(0);
         CHECKS.due("a key put down is taken again", x.doorsTo(2), 2);
+    }
+
+    private static void doorsFarAway() {
+        PinHouse x = new PinHouse();
+        x.brass(100);
+        x.door(4, 5, 1111, 1111);
+        x.key(1111, 0);
+        x.take(0);
+        CHECKS.due("a key in hand for a door elsewhere", x.reach(), 1);
+        CHECKS.due("no way", x.doorsTo(4), -6);
+        x.door(3, 4, 1111, 1111);
+        CHECKS.due("still elsewhere", x.reach(), 1);
+        x.door(0, 3, 1111, 1111);
+        CHECKS.due("linked", x.reach(), 1 + 8 + 16 + 32);
+        CHECKS.due("three doors", x.doorsTo(5), 3);
+    }
+
+    private static void manyWays() {
+        PinHouse x = new PinHouse();
+        x.brass(200);
+        x.key(1111, 0);
+        x.key(2222, 6);
+        for (int door = 0; door < 5; door++) x.door(0, 1, 1111, 1111);
+        x.door(1, 2, 1111, 1111);
+        x.door(2, 3, 1111, 1111);
+        x.door(3, 6, 1111, 1111);
+        x.door(0, 4, 2222, 2222);
+        x.door(4, 5, 2222, 2222);
+        CHECKS.due("four there, four back, two on", x.doorsTo(5), 10);
+        CHECKS.due("room 7 has no door", x.doorsTo(7), -6);
+        CHECKS.due("the same once more", x.doorsTo(5), 10);
+        CHECKS.due("reach", x.reach(), 127);
     }
 
     private static void doorsThereAndBack() {
