@@ -19,6 +19,7 @@ public final class EdgesOfUndoTest {
         exceptThePad();
         exceptTheSlots();
         otherThingsInBetween();
+        newThingsAreNew();
         undoIsNotUndone();
         noSuchSlotToSave();
         roomWhenSaved();
@@ -280,6 +281,30 @@ public final class EdgesOfUndoTest {
         x.carryPlan();
         EDGES.due("the other first row", x.ofDoor(0, 2), 7777);
         EDGES.due("the other second row", x.ofDoor(0, 3), 8888);
+    }
+
+    private static void newThingsAreNew() {
+        EDGES.of("Promise 32", "Restores what was saved last in a slot");
+        PinHouse x = new PinHouse();
+        x.brass(300);
+        x.save(0);
+        x.door(0, 1, 1111, 2222);
+        x.door(1, 2, 3333, 3333);
+        x.cut(0, 4444, 4444);
+        x.plan(1, 5555, 5555);
+        x.save(1);
+        x.restore(0);
+        x.door(6, 7, 1, 2);
+        x.door(7, 6, 3, 4);
+        EDGES.due("a door that is made anew was never cut", x.ofDoor(0, 5), 0);
+        x.plan(0, 6666, 6666);
+        x.restore(1);
+        EDGES.due("door 1 is planned", x.ofDoor(1, 7), 0);
+        EDGES.due("door 0 is not", x.ofDoor(0, 7), -6);
+        EDGES.due("door 0 was cut anew", x.ofDoor(0, 5), 1);
+        x.undo();
+        EDGES.due("door 0 is planned", x.ofDoor(0, 7), 0);
+        EDGES.due("door 1 is not", x.ofDoor(1, 7), -6);
     }
 
     private static void undoIsNotUndone() {
