@@ -836,20 +836,26 @@ public final class PinHouse {
 
         int leastJustFor(House house, int doors) {
             work(house, doors);
-            return leastFrom(house, doors, 0, 0);
-        }
-
-        /** The least row that begins with the places that are chosen already. */
-        private int leastFrom(House house, int doors, int place, int chosen) {
-            if (place >= PINS) return house.doorsOpenedBy(chosen) == doors ? chosen : NONE;
-            for (int depth = 0; depth < DEPTHS; depth++) {
-                boolean beside = place == 0 || Math.abs(depth - chosen % 10) <= step;
-                if (beside && fits(place, depth)) {
-                    int row = leastFrom(house, doors, place + 1, chosen * 10 + depth);
-                    if (row != NONE) return row;
-                }
+            int row = 0;
+            while (row <= MOST_ROW) {
+                int misfits = misfitsFrom(row);
+                if (misfits == 0 && house.doorsOpenedBy(row) == doors) return row;
+                row += Math.max(1, misfits);
             }
             return NONE;
+        }
+
+        /** How many rows from this one on begin with the same places that cannot be, 0 if the row fits. */
+        private int misfitsFrom(int row) {
+            int left = row / 1000;
+            int place = 0;
+            for (int unit = 1000; unit > 0 && place < PINS; unit /= 10) {
+                int depth = row / unit % 10;
+                if (Math.abs(depth - left) > step || !fits(place, depth)) return unit - row % unit;
+                left = depth;
+                place++;
+            }
+            return 0;
         }
     }
 
